@@ -77,12 +77,9 @@ public final class ChunkStore {
             return replicas >= REPLICA_LIMIT;
         }
 
+        /** For a new chunk alone: a number is given once, so nothing stands in its rows yet. */
         private void addEmpty(int number) {
             versions[number] = 1;
-            used[number] = 0;
-            for (int i = 0; i < WORD_COUNT; i++) {
-                words[number * WORD_COUNT + i] = 0;
-            }
             replicas++;
         }
 
