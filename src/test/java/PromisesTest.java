@@ -208,48 +208,14 @@ public final class PromisesTest {
             """);
     }
 
-    /** Fills the first 7 files with 20 chunks, so that all servers are full. */
-    private static String fullServers() {
-        StringBuilder calls = new StringBuilder();
-        for (int i = 0; i < 8; i++) {
-            calls.append("create(" + i + ") = " + (i + 1) + "\n");
-        }
-        for (int i = 0; i < 20; i++) {
-            calls.append("extend(" + i / 3 + ") = " + i + "\n");
-        }
-        return calls.toString();
-    }
-
-    /** Makes 24 chunks with one server up at a time, then sweeps files 0 and 1 and makes 6 more for them. */
-    private static String allChunks() {
-        StringBuilder calls = new StringBuilder();
-        calls.append("up(1, false) = 0\nup(2, false) = 0\nup(3, false) = 0\nup(4, false) = 0\n");
-        for (int i = 0; i < 8; i++) {
-            calls.append("create(" + i + ") = " + (i + 1) + "\n");
-        }
-        for (int i = 0; i < 24; i++) {
-            if (i == 12) {
-                calls.append("extend(4) throws IllegalStateException\nup(0, false) = 12\nup(1, true) = 0\n");
-            }
-            calls.append("extend(" + i / 3 + ") = " + i + "\n");
-        }
-        calls.append("up(1, false) = 12\nup(2, true) = 0\n");
-        calls.append("remove(0) = 3\nremove(1) = 3\ntick(30.0) = 30.0\nsweep() = 2\n");
-        calls.append("create(0) = 7\ncreate(1) = 8\n");
-        for (int i = 24; i < 30; i++) {
-            calls.append("extend(" + (i - 24) / 3 + ") = " + i + "\n");
-        }
-        return calls.toString();
-    }
-
     private static void extendToTheLimits() {
-        SCRIPT.run("6 extend until all are full", fullServers() + """
+        SCRIPT.run("6 extend until all are full", Runs.fullServers() + """
             load() = 12.0
             extend(7) throws IllegalStateException
             extend(6) throws IllegalStateException
             extend(5) throws IndexOutOfBoundsException
             """);
-        SCRIPT.run("6 extend until 30 are made", allChunks() + """
+        SCRIPT.run("6 extend until 30 are made", Runs.chunksMade(30) + """
             chunk(29, 0) = 1
             chunk(29, 2) = 4
             remove(7) = 3
@@ -459,7 +425,7 @@ public final class PromisesTest {
     }
 
     private static void writeToSharedAtTheLimits() {
-        SCRIPT.run("8 write to a shared chunk of full servers", fullServers() + """
+        SCRIPT.run("8 write to a shared chunk of full servers", Runs.fullServers() + """
             remove(7) = 0
             tick(30.0) = 30.0
             sweep() = 1
@@ -507,7 +473,7 @@ public final class PromisesTest {
             file(4, 2) = 12
             chunk(12, 2) = 2
             """);
-        SCRIPT.run("8 write to a shared chunk when 30 are made", allChunks() + """
+        SCRIPT.run("8 write to a shared chunk when 30 are made", Runs.chunksMade(30) + """
             remove(7) = 3
             tick(30.0) = 60.0
             sweep() = 1
@@ -875,7 +841,7 @@ public final class PromisesTest {
             repair() = 1
             look(1, 0, 2) = 2
             """);
-        SCRIPT.run("13 repair passes by a full server", fullServers() + """
+        SCRIPT.run("13 repair passes by a full server", Runs.fullServers() + """
             up(0, false) = 12
             repair() throws NoSuchElementException
             remove(1) = 3

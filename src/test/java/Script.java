@@ -1,19 +1,27 @@
-import java.lang.reflect.InvocationTargetException;
-import java.lang.reflect.Method;
+import java.util.ArrayList;
+import java.util.List;
 
 /**
  * Runs calls, written one a line, on a new ChunkStore and prints every answer that is not due:
  * "create(0) = 1" for an answer, "create(8) throws IllegalArgumentException" for an exception.
+ * After each refused call it looks, with Trace, whether something changed that should not have.
  */
 final class Script {
+    /** The document says nothing of an object after so many calls. */
+    static final int MOST_CALLS = 512;
+
     private int wrong;
 
     void run(String title, String calls) {
         ChunkStore store = new ChunkStore();
+        List<Call> before = new ArrayList<>();
         for (String line : calls.strip().split("\n")) {
             if (!line.isBlank()) {
-                check(title, store, line.strip());
+                check(title, store, line.strip(), before);
             }
+        }
+        if (before.size() > MOST_CALLS) {
+            complain(title + ": has " + before.size() + " calls");
         }
     }
 
@@ -24,52 +32,29 @@ final class Script {
         }
     }
 
-    private void check(String title, ChunkStore store, String line) {
+    private void check(String title, ChunkStore store, String line, List<Call> before) {
         int close = line.indexOf(')');
-        String call = line.substring(0, close + 1);
+        Call call = Call.of(line.substring(0, close + 1));
         String due = line.substring(close + 1).strip();
-        String got = answer(store, call);
+        String got = call.answer(store);
         if (!got.equals(due)) {
-            wrong++;
-            System.out.println(title + ": " + call + " " + got + ", due is " + due);
+            complain(title + ": " + call.text() + " " + got + ", due is " + due);
+        }
+        if (got.startsWith("throws")) {
+            checkTrace(title, before, call, got);
+        }
+        before.add(call);
+    }
+
+    private void checkTrace(String title, List<Call> before, Call refused, String got) {
+        String trace = Trace.of(before, refused, got);
+        if (!trace.isEmpty()) {
+            complain(title + ": " + refused.text() + " " + got + ", but then " + trace);
         }
     }
 
-    private static String answer(ChunkStore store, String call) {
-        int open = call.indexOf('(');
-        Method method = method(call.substring(0, open));
-        String inside = call.substring(open + 1, call.length() - 1).strip();
-        String[] texts = inside.isEmpty() ? new String[0] : inside.split(",");
-        Class<?>[] types = method.getParameterTypes();
-        if (texts.length != types.length) {
-            throw new IllegalArgumentException("wrong number of arguments: " + call);
-        }
-        Object[] arguments = new Object[types.length];
-        for (int i = 0; i < types.length; i++) {
-            arguments[i] = value(types[i], texts[i].strip());
-        }
-        try {
-            return "= " + method.invoke(store, arguments);
-        } catch (InvocationTargetException e) {
-            return "throws " + e.getCause().getClass().getSimpleName();
-        } catch (IllegalAccessException e) {
-            return "is not public";
-        }
-    }
-
-    private static Object value(Class<?> type, String text) {
-        if (type == boolean.class) {
-            return Boolean.valueOf(text);
-        }
-        return type == double.class ? (Object) Double.valueOf(text) : (Object) Integer.valueOf(text);
-    }
-
-    private static Method method(String name) {
-        for (Method method : ChunkStore.class.getDeclaredMethods()) {
-            if (method.getName().equals(name)) {
-                return method;
-            }
-        }
-        throw new IllegalArgumentException("no method " + name);
+    private void complain(String text) {
+        wrong++;
+        System.out.println(text);
     }
 }
