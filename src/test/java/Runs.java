@@ -12,14 +12,18 @@ final class Runs {
         return off(1, 2, 3, 4) + creates(4) + extendsTo(0, count, 0);
     }
 
+    /** All 8 files have 3 chunks each: 0 .. 11 on server 0, which is not up, 12 .. 23 on server 1. */
+    static String fullRows() {
+        return off(1, 2, 3, 4) + creates(8) + extendsTo(0, 12, 0)
+                + "up(0, false) = 12\nup(1, true) = 0\n" + extendsTo(12, 24, 0);
+    }
+
     /**
      * So many chunks, 24 to 30, are made, at time 30.0. All 8 files are there. Those of files 2 .. 7 are
      * on servers 0 and 1; file 0, then file 1, has what is made from 24 on, on server 2, which alone is up.
      */
     static String chunksMade(int count) {
-        return off(1, 2, 3, 4) + creates(8) + extendsTo(0, 12, 0)
-                + "up(0, false) = 12\nup(1, true) = 0\n" + extendsTo(12, 24, 0)
-                + "up(1, false) = 12\nup(2, true) = 0\n"
+        return fullRows() + "up(1, false) = 12\nup(2, true) = 0\n"
                 + "remove(0) = 3\nremove(1) = 3\ntick(30.0) = 30.0\nsweep() = 2\n"
                 + "create(0) = 7\ncreate(1) = 8\n" + extendsTo(24, count, 24);
     }

@@ -231,38 +231,31 @@ public final class TermsEdgesTest {
     }
 
     private static void clients() {
-        SCRIPT.run("Terms: CLIENTS 0 .. 2 KEEP for a FILE and a place 0 .. 2, each for itself", """
-            create(0) = 1
-            extend(0) = 0
-            extend(0) = 1
-            extend(0) = 2
-            copy(0, 7) = 3
-            locate(0, 0, 0) = 1
-            locate(2, 0, 2) = 1
-            locate(1, 7, 1) = 1
-            write(7, 1, 0, 8) = 1
-            tick(1.0) = 1.0
-            write(0, 0, 0, 1) = 1
-            write(0, 2, 0, 1) = 1
-            write(0, 1, 0, 1) = 2
-            write(7, 0, 0, 1) = 2
-            write(7, 2, 0, 1) = 2
-            up(0, false) = 4
-            up(1, false) = 4
-            write(0, 0, 0, 1) = 2
-            write(0, 2, 0, 1) = 2
-            locate(0, 0, 0) = 1
-            locate(1, 0, 0) = 2
-            locate(2, 0, 0) = 2
-            locate(2, 0, 2) = 1
-            locate(0, 0, 2) = 2
-            locate(1, 0, 2) = 2
-            locate(0, 0, 1) = 2
-            locate(2, 0, 1) = 2
-            read(1, 7, 1, 0, 4) = 1
-            read(0, 7, 1, 0, 4) = 8
-            read(2, 7, 1, 0, 4) = 8
-            """);
+        for (int client = 0; client < 3; client++) {
+            for (int file = 0; file < 8; file++) {
+                for (int place = 0; place < 3; place++) {
+                    oneKept(client, file, place);
+                }
+            }
+        }
+    }
+
+    /** One client keeps what it found at one place before all was written; whatever else is found is new. */
+    private static void oneKept(int client, int file, int place) {
+        String kept = locate(client, file, place);
+        StringBuilder calls = new StringBuilder(Runs.fullRows() + "up(0, true) = 12\n" + kept + " = 1\n");
+        for (int i = 0; i < 24; i++) {
+            calls.append("write(" + i / 3 + ", " + i % 3 + ", 0, 1) = 2\n");
+        }
+        for (int i = 0; i < 72; i++) {
+            String found = locate(i / 24, i % 24 / 3, i % 3);
+            calls.append(found + (found.equals(kept) ? " = 1\n" : " = 2\n"));
+        }
+        SCRIPT.run("Terms: CLIENTS 0 .. 2 KEEP for a FILE and a place 0 .. 2: " + kept, calls.toString());
+    }
+
+    private static String locate(int client, int file, int place) {
+        return "locate(" + client + ", " + file + ", " + place + ")";
     }
 
     private static void choosing() {
@@ -764,7 +757,7 @@ public final class TermsEdgesTest {
             file(4, 3) = 1
             chunk(1, 1) = 2
             """);
-        SCRIPT.run("Terms, TO LEASE: one of several LIVE HOLDERS is FULL, or FULL and not UP", Runs.onlyServer0(11) + """
+        SCRIPT.run("Terms, TO LEASE: one of the LIVE HOLDERS is FULL, or FULL and not UP", Runs.onlyServer0(11) + """
             up(3, true) = 0
             up(4, true) = 0
             extend(3) = 11
