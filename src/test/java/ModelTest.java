@@ -123,6 +123,7 @@ public final class ModelTest {
         }
     }
 
+    /** Views change nothing here, so they are asked beyond the 512 calls, though the document leaves that free. */
     private void compareState() {
         for (int i = -1; i <= 30; i++) {
             for (int what = -1; what <= 6; what++) {
