@@ -84,6 +84,18 @@ public final class ServerEdgesTest {
             report(4) = 0
             chunk(0, 2) = 7
             """);
+        SCRIPT.run("Promise 12: each of its REPLICAS, to that of the last of 30 CHUNKS", Runs.chunksMade(30) + """
+            report(2) = 0
+            up(0, true) = 12
+            report(0) = 6
+            remove(1) = 3
+            tick(30.0) = 60.0
+            sweep() = 1
+            report(2) = 3
+            look(2, 29, 0) throws NoSuchElementException
+            look(2, 26, 0) = 1
+            chunk(29, 2) = 0
+            """);
         SCRIPT.run("Promise 12: Answers how many it lost, all of 12", Runs.onlyServer0(12) + """
             remove(0) = 3
             remove(1) = 3
