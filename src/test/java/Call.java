@@ -38,8 +38,8 @@ record Call(String text, Method method, Object[] arguments) {
     }
 
     private static Method method(String name) {
-        for (Method method : ChunkStore.class.getMethods()) {
-            if (method.getName().equals(name) && method.getDeclaringClass() == ChunkStore.class) {
+        for (Method method : Face.calls()) {
+            if (method.getName().equals(name)) {
                 return method;
             }
         }

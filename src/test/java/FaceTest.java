@@ -2,7 +2,6 @@ import java.lang.reflect.Constructor;
 import java.lang.reflect.Field;
 import java.lang.reflect.Method;
 import java.lang.reflect.Modifier;
-import java.util.ArrayList;
 import java.util.List;
 import java.util.Set;
 import java.util.TreeSet;
@@ -19,91 +18,62 @@ public final class FaceTest {
             face("int create(int)", ARGUMENT, STATE),
             face("int remove(int)", ARGUMENT, ELEMENT),
             face("int restore(int)", ARGUMENT, ELEMENT),
-            face("int copy(int,int)", ARGUMENT, ELEMENT, STATE),
+            face("int copy(int, int)", ARGUMENT, ELEMENT, STATE),
             face("int extend(int)", ARGUMENT, ELEMENT, STATE, BOUNDS),
-            face("int locate(int,int,int)", ARGUMENT, ELEMENT, BOUNDS),
-            face("int write(int,int,int,int)", ARGUMENT, ELEMENT, STATE, UNSUPPORTED, BOUNDS),
-            face("int append(int,int)", ARGUMENT, ELEMENT, STATE, UNSUPPORTED, BOUNDS),
-            face("int read(int,int,int,int,int)", ARGUMENT, ELEMENT, STATE, UNSUPPORTED, BOUNDS),
-            face("int up(int,boolean)", ARGUMENT),
+            face("int locate(int, int, int)", ARGUMENT, ELEMENT, BOUNDS),
+            face("int write(int, int, int, int)", ARGUMENT, ELEMENT, STATE, UNSUPPORTED, BOUNDS),
+            face("int append(int, int)", ARGUMENT, ELEMENT, STATE, UNSUPPORTED, BOUNDS),
+            face("int read(int, int, int, int, int)", ARGUMENT, ELEMENT, STATE, UNSUPPORTED, BOUNDS),
+            face("int up(int, boolean)", ARGUMENT),
             face("int report(int)", ARGUMENT, STATE),
             face("int repair()", ELEMENT),
             face("int sweep()"),
             face("double tick(double)", ARGUMENT),
             face("double load()", "ArithmeticException"),
-            face("int look(int,int,int)", ARGUMENT, ELEMENT),
-            face("int file(int,int)", ARGUMENT),
-            face("int chunk(int,int)", ARGUMENT, ELEMENT)));
+            face("int look(int, int, int)", ARGUMENT, ELEMENT),
+            face("int file(int, int)", ARGUMENT),
+            face("int chunk(int, int)", ARGUMENT, ELEMENT)));
 
-    private static final List<String> WRONG = new ArrayList<>();
+    private static final Faults FAULTS = new Faults();
 
     private static String face(String signature, String... exceptions) {
         return signature + " " + String.join(",", exceptions);
     }
 
-    private static String face(Method method) {
-        List<String> types = new ArrayList<>();
-        for (Class<?> type : method.getParameterTypes()) {
-            types.add(type.getSimpleName());
-        }
-        List<String> exceptions = new ArrayList<>();
-        for (Class<?> exception : method.getExceptionTypes()) {
-            exceptions.add(exception.getSimpleName());
-        }
-        String signature =
-                method.getReturnType() + " " + method.getName() + "(" + String.join(",", types) + ")";
-        return face(signature, exceptions.toArray(new String[0]));
-    }
-
-    private static void expect(boolean holds, String otherwise) {
-        if (!holds) {
-            WRONG.add(otherwise);
-        }
-    }
-
     private static void checkMethods() {
         Set<String> seen = new TreeSet<>();
-        Set<String> publicNames = new TreeSet<>();
-        List<String> privateNames = new ArrayList<>();
-        for (Method method : ChunkStore.class.getDeclaredMethods()) {
-            if (Modifier.isPublic(method.getModifiers())) {
-                seen.add(face(method));
-                publicNames.add(method.getName());
-                expect(!Modifier.isStatic(method.getModifiers()), method + " is static");
-            } else {
-                expect(Modifier.isPrivate(method.getModifiers()), method + " can be seen");
-                privateNames.add(method.getName());
-            }
+        Set<String> names = new TreeSet<>();
+        for (Method method : Face.calls()) {
+            seen.add(face(Face.signature(method), Face.exceptions(method).toArray(new String[0])));
+            names.add(method.getName());
+            FAULTS.expect(!Modifier.isStatic(method.getModifiers()), method + " is static");
         }
-        expect(seen.equals(FACE), "the public methods are " + seen + ", due are " + FACE);
-        for (String name : privateNames) {
-            expect(!publicNames.contains(name), "a private method bears the public name " + name);
+        FAULTS.expect(seen.equals(FACE), "the public methods are " + seen + ", due are " + FACE);
+        for (Method method : ChunkStore.class.getDeclaredMethods()) {
+            if (!Modifier.isPublic(method.getModifiers())) {
+                FAULTS.expect(Modifier.isPrivate(method.getModifiers()), method + " can be seen");
+                FAULTS.expect(!names.contains(method.getName()), method + " bears a public name");
+            }
         }
     }
 
     private static void checkTheRest() {
-        expect(Modifier.isFinal(ChunkStore.class.getModifiers()), "the class is not final");
-        expect(Modifier.isPublic(ChunkStore.class.getModifiers()), "the class is not public");
+        FAULTS.expect(Modifier.isFinal(ChunkStore.class.getModifiers()), "the class is not final");
+        FAULTS.expect(Modifier.isPublic(ChunkStore.class.getModifiers()), "the class is not public");
         Constructor<?>[] constructors = ChunkStore.class.getDeclaredConstructors();
-        expect(constructors.length == 1, "there is more than one constructor");
-        expect(Modifier.isPublic(constructors[0].getModifiers()), "the constructor is not public");
-        expect(constructors[0].getParameterCount() == 0, "the constructor takes something");
+        FAULTS.expect(constructors.length == 1, "there is more than one constructor");
+        FAULTS.expect(Modifier.isPublic(constructors[0].getModifiers()), "the constructor is not public");
+        FAULTS.expect(constructors[0].getParameterCount() == 0, "the constructor takes something");
         for (Field field : ChunkStore.class.getDeclaredFields()) {
-            expect(Modifier.isPrivate(field.getModifiers()), field + " can be seen");
+            FAULTS.expect(Modifier.isPrivate(field.getModifiers()), field + " can be seen");
             boolean lasting = Modifier.isFinal(field.getModifiers());
-            expect(lasting || !Modifier.isStatic(field.getModifiers()), field + " is static state");
+            FAULTS.expect(lasting || !Modifier.isStatic(field.getModifiers()), field + " is static state");
         }
     }
 
     public static void main(String[] args) {
         checkMethods();
         checkTheRest();
-        for (String line : WRONG) {
-            System.out.println(line);
-        }
-        System.out.println(WRONG.isEmpty() ? "the face is as due" : WRONG.size() + " faults of the face");
-        if (!WRONG.isEmpty()) {
-            System.exit(1);
-        }
+        FAULTS.finish();
     }
 }

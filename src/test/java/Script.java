@@ -10,7 +10,7 @@ final class Script {
     /** The document says nothing of an object after so many calls. */
     static final int MOST_CALLS = 512;
 
-    private int wrong;
+    private final Faults faults = new Faults();
 
     void run(String title, String calls) {
         ChunkStore store = new ChunkStore();
@@ -20,16 +20,11 @@ final class Script {
                 check(title, store, line.strip(), before);
             }
         }
-        if (before.size() > MOST_CALLS) {
-            complain(title + ": has " + before.size() + " calls");
-        }
+        faults.expect(before.size() <= MOST_CALLS, title + ": has " + before.size() + " calls");
     }
 
     void finish() {
-        System.out.println(wrong == 0 ? "all answers are as due" : wrong + " answers are not as due");
-        if (wrong != 0) {
-            System.exit(1);
-        }
+        faults.finish();
     }
 
     private void check(String title, ChunkStore store, String line, List<Call> before) {
@@ -37,9 +32,7 @@ final class Script {
         Call call = Call.of(line.substring(0, close + 1));
         String due = line.substring(close + 1).strip();
         String got = call.answer(store);
-        if (!got.equals(due)) {
-            complain(title + ": " + call.text() + " " + got + ", due is " + due);
-        }
+        faults.expect(got.equals(due), title + ": " + call.text() + " " + got + ", due is " + due);
         if (got.startsWith("throws")) {
             checkTrace(title, before, call, got);
         }
@@ -48,13 +41,6 @@ final class Script {
 
     private void checkTrace(String title, List<Call> before, Call refused, String got) {
         String trace = Trace.of(before, refused, got);
-        if (!trace.isEmpty()) {
-            complain(title + ": " + refused.text() + " " + got + ", but then " + trace);
-        }
-    }
-
-    private void complain(String text) {
-        wrong++;
-        System.out.println(text);
+        faults.expect(trace.isEmpty(), title + ": " + refused.text() + " " + got + ", but then " + trace);
     }
 }
